@@ -1,0 +1,150 @@
+/** Promises 1 to 4: a new object, addPlace, places, leaves. */
+final class PlacesTest {
+    private PlacesTest() {
+    }
+
+    static void run() {
+        newBook();
+        addPlace();
+        addPlaceRefusesTheEleventh();
+        addPlaceRefusesALeafInUse();
+        addPlaceTakesAPlaceWithChildren();
+        addPlaceThrowsInOrder();
+        addPlaceThatThrowsChangesNothing();
+        leaves();
+    }
+
+    private static void newBook() {
+        BudgetBook book = new BudgetBook();
+        Check.due("new places", book.places(), 1);
+        Check.due("new leaves", book.leaves(0), 1);
+        Check.due("new filled", book.filled(), 0);
+        for (int version = 0; version < 3; version++) {
+            for (int account = 0; account <= BudgetBook.PAY; account++) {
+                Check.due("new year", book.year(version, 0, account), 0);
+            }
+            Check.due("new open", book.takeBack(version, 0), 0);
+        }
+        for (int month = 0; month < 12; month++) {
+            Check.due("new season", book.setSeason(month, 1), 1);
+            Check.due("new held", book.hold(0, month, false), false);
+        }
+        Check.due("new months", book.closeMonth(), 1);
+        BudgetBook other = new BudgetBook();
+        book.addPlace(0);
+        Check.due("books are apart", other.places(), 1);
+    }
+
+    private static void addPlace() {
+        BudgetBook book = new BudgetBook();
+        for (int number = 1; number < 10; number++) {
+            Check.due("addPlace", book.addPlace((number - 1) / 2), number);
+            Check.due("places", book.places(), number + 1);
+        }
+    }
+
+    private static void addPlaceRefusesTheEleventh() {
+        BudgetBook book = new BudgetBook();
+        for (int number = 1; number < 10; number++) {
+            book.addPlace(0);
+        }
+        Check.thrown("eleventh below the root", Check.STATE, () -> book.addPlace(0));
+        Check.thrown("eleventh below a leaf", Check.STATE, () -> book.addPlace(9));
+        Check.due("places", book.places(), 10);
+        Check.due("leaves", book.leaves(0), 0b1111111110);
+    }
+
+    private static void addPlaceRefusesALeafInUse() {
+        for (int account = 0; account <= BudgetBook.COSTS; account++) {
+            for (int version = 0; version < 4; version++) {
+                for (int month = 0; month < 12; month++) {
+                    BudgetBook book = new BudgetBook();
+                    book.addPlace(0);
+                    put(book, version, account, month, 1);
+                    Check.thrown("a filled leaf", Check.STATE, () -> book.addPlace(1));
+                    put(book, version, account, month, 0);
+                    Check.due("an emptied leaf", book.addPlace(1), 2);
+                }
+            }
+        }
+        for (int month = 0; month < 12; month++) {
+            BudgetBook book = new BudgetBook();
+            book.hold(0, month, true);
+            Check.thrown("a held leaf", Check.STATE, () -> book.addPlace(0));
+            book.hold(0, month, false);
+            Check.due("a leaf no more held", book.addPlace(0), 1);
+        }
+        for (int version = 0; version < 3; version++) {
+            BudgetBook book = new BudgetBook();
+            book.handIn(version, 0);
+            Check.thrown("a closed leaf", Check.STATE, () -> book.addPlace(0));
+            book.takeBack(version, 0);
+            Check.due("an opened leaf", book.addPlace(0), 1);
+        }
+    }
+
+    /** The version 3 stands for the seen cells. */
+    private static void put(BudgetBook book, int version, int account, int month, int amount) {
+        if (version == 3) {
+            book.see(1, account, month, amount);
+        } else {
+            book.set(version, 1, account, month, amount);
+        }
+    }
+
+    private static void addPlaceTakesAPlaceWithChildren() {
+        BudgetBook book = new BudgetBook();
+        book.addPlace(0);
+        book.set(0, 1, BudgetBook.COSTS, 0, 5);
+        book.hold(1, 3, true);
+        book.handIn(2, 0);
+        Check.due("a parent with a leaf in use", book.addPlace(0), 2);
+        Check.due("the new leaf is open", book.handIn(2, 2), 1);
+        Check.due("the new leaf is not held", book.hold(2, 3, false), false);
+    }
+
+    private static void addPlaceThrowsInOrder() {
+        BudgetBook book = new BudgetBook();
+        for (int parent : new int[] {-1, 1, 9, 10, 31, 32, 33, Integer.MAX_VALUE, Integer.MIN_VALUE}) {
+            Check.thrown("no such parent", Check.INDEX, () -> book.addPlace(parent));
+        }
+        for (int number = 1; number < 10; number++) {
+            book.addPlace(0);
+        }
+        Check.thrown("no such parent in a full book", Check.INDEX, () -> book.addPlace(10));
+        Check.thrown("no such parent in a full book", Check.INDEX, () -> book.addPlace(-1));
+    }
+
+    private static void addPlaceThatThrowsChangesNothing() {
+        BudgetBook book = new BudgetBook();
+        book.addPlace(0);
+        book.set(1, 1, BudgetBook.COSTS, 2, 7);
+        String before = Probe.of(book, 2);
+        Check.thrown("no such parent", Check.INDEX, () -> book.addPlace(2));
+        Check.thrown("a filled leaf", Check.STATE, () -> book.addPlace(1));
+        Check.due("nothing changed", Probe.of(book, 2), before);
+        Check.due("it is a leaf yet", book.set(1, 1, BudgetBook.COSTS, 2, 0), 7);
+    }
+
+    private static void leaves() {
+        BudgetBook book = new BudgetBook();
+        Check.due("the root alone", book.leaves(0), 0b1);
+        book.addPlace(0);
+        Check.due("below the root", book.leaves(0), 0b10);
+        Check.due("itself", book.leaves(1), 0b10);
+        book.addPlace(0);
+        book.addPlace(1);
+        book.addPlace(2);
+        book.addPlace(1);
+        book.addPlace(3);
+        Check.due("all", book.leaves(0), 0b1110000);
+        Check.due("of 1", book.leaves(1), 0b1100000);
+        Check.due("of 2", book.leaves(2), 0b0010000);
+        Check.due("of 3", book.leaves(3), 0b1000000);
+        Check.due("of 4", book.leaves(4), 0b0010000);
+        Check.due("of 6", book.leaves(6), 0b1000000);
+        for (int place : new int[] {-1, 7, 9, 10, Integer.MAX_VALUE, Integer.MIN_VALUE}) {
+            Check.thrown("no such place", Check.INDEX, () -> book.leaves(place));
+        }
+    }
+}

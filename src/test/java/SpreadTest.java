@@ -1,0 +1,195 @@
+/** Promise 8: spread. */
+final class SpreadTest {
+    private static final int COSTS = BudgetBook.COSTS;
+    private static final int BY_FORMER = BudgetBook.BY_FORMER;
+    private static final int EVENLY = BudgetBook.EVENLY;
+
+    private SpreadTest() {
+    }
+
+    static void run() {
+        byFormer();
+        byFormerOfZeros();
+        evenly();
+        restGoesByRisingNumbersToWeightsThatAreNotZero();
+        greatAmounts();
+        heldAndClosed();
+        tenthPlace();
+        touchesNothingElse();
+        cannotBeSpread();
+        throwsInOrder();
+    }
+
+    /** A book with leaves 1 to the number of amounts, with these COSTS in version 1, month 4. */
+    private static BudgetBook bookOf(int... amounts) {
+        BudgetBook book = new BudgetBook();
+        for (int leaf = 1; leaf <= amounts.length; leaf++) {
+            book.addPlace(0);
+        }
+        for (int leaf = 1; leaf <= amounts.length; leaf++) {
+            book.set(1, leaf, COSTS, 4, amounts[leaf - 1]);
+        }
+        return book;
+    }
+
+    private static void costsDue(String what, BudgetBook book, int... due) {
+        int sum = 0;
+        for (int leaf = 1; leaf <= due.length; leaf++) {
+            Check.due(what + ", leaf " + leaf, book.amount(1, leaf, COSTS, 4), due[leaf - 1]);
+            sum += due[leaf - 1];
+        }
+        Check.due(what + ", sum", book.amount(1, 0, COSTS, 4), sum);
+    }
+
+    private static void byFormer() {
+        BudgetBook book = bookOf(100, 300);
+        Check.due("changed", book.spread(1, 0, 4, 1001, BY_FORMER), 2);
+        costsDue("by former", book, 251, 750);
+        Check.due("the same sum changes nothing", book.spread(1, 0, 4, 1001, BY_FORMER), 0);
+        Check.due("to 0", book.spread(1, 0, 4, 0, BY_FORMER), 2);
+        costsDue("to 0", book, 0, 0);
+        book = bookOf(1, 2, 4);
+        Check.due("one stays", book.spread(1, 0, 4, 8, BY_FORMER), 1);
+        costsDue("8 by 1, 2, 4", book, 2, 2, 4);
+        book = bookOf(7);
+        Check.due("a leaf itself", book.spread(1, 1, 4, 9, BY_FORMER), 1);
+        costsDue("a leaf itself", book, 9);
+        book = new BudgetBook();
+        Check.due("the root as a leaf", book.spread(1, 0, 4, 9, BY_FORMER), 1);
+        Check.due("the root as a leaf", book.amount(1, 0, COSTS, 4), 9);
+    }
+
+    private static void byFormerOfZeros() {
+        BudgetBook book = bookOf(0, 0, 0);
+        Check.due("changed", book.spread(1, 0, 4, 8, BY_FORMER), 3);
+        costsDue("zeros are spread evenly", book, 3, 3, 2);
+        book = bookOf(0, 5, 0);
+        Check.due("changed", book.spread(1, 0, 4, 8, BY_FORMER), 1);
+        costsDue("not if one is not 0", book, 0, 8, 0);
+        book = bookOf(0, 5, 0);
+        book.hold(2, 4, true);
+        Check.due("changed", book.spread(1, 0, 4, 8, BY_FORMER), 2);
+        costsDue("the amount of a held leaf does not count", book, 2, 5, 1);
+    }
+
+    private static void evenly() {
+        BudgetBook book = bookOf(900, 0, 5);
+        Check.due("changed", book.spread(1, 0, 4, 17, EVENLY), 2);
+        costsDue("evenly", book, 6, 6, 5);
+        Check.due("less than leaves", book.spread(1, 0, 4, 2, EVENLY), 3);
+        costsDue("less than leaves", book, 1, 1, 0);
+        Check.due("none", book.spread(1, 0, 4, 0, EVENLY), 2);
+        costsDue("none", book, 0, 0, 0);
+    }
+
+    private static void restGoesByRisingNumbersToWeightsThatAreNotZero() {
+        BudgetBook book = bookOf(0, 1, 0, 1, 1);
+        Check.due("changed", book.spread(1, 0, 4, 5, BY_FORMER), 2);
+        costsDue("5 by 0, 1, 0, 1, 1", book, 0, 2, 0, 2, 1);
+        book = bookOf(1, 1000000);
+        Check.due("changed", book.spread(1, 0, 4, 999999, BY_FORMER), 1);
+        costsDue("a small weight takes what is left", book, 1, 999998);
+        book = bookOf(1, 1, 1, 1000, 1);
+        Check.due("changed", book.spread(1, 0, 4, 502, BY_FORMER), 3);
+        costsDue("what is left ends before the last", book, 1, 1, 0, 500, 0);
+    }
+
+    private static void greatAmounts() {
+        BudgetBook book = bookOf(1000000, 1000000, 999999);
+        Check.due("changed", book.spread(1, 0, 4, 1000000, BY_FORMER), 3);
+        costsDue("great weights", book, 333334, 333333, 333333);
+        book = bookOf(0, 0, 0);
+        Check.due("changed", book.spread(1, 0, 4, 1000000, EVENLY), 3);
+        costsDue("great sum", book, 333334, 333333, 333333);
+    }
+
+    private static void heldAndClosed() {
+        BudgetBook book = bookOf(10, 20, 30, 40);
+        book.hold(1, 4, true);
+        book.handIn(1, 3);
+        Check.due("changed", book.spread(1, 0, 4, 100, BY_FORMER), 0);
+        costsDue("the rest is as it was", book, 10, 20, 30, 40);
+        Check.due("changed", book.spread(1, 0, 4, 41, EVENLY), 2);
+        costsDue("the held ones are left", book, 10, 1, 30, 0);
+        Check.due("the rest is 0", book.spread(1, 0, 4, 40, BY_FORMER), 1);
+        costsDue("the rest is 0", book, 10, 0, 30, 0);
+        book.handIn(0, 2);
+        book.hold(2, 5, true);
+        Check.due("closed elsewhere, held elsewhen", book.spread(1, 2, 4, 6, BY_FORMER), 1);
+        costsDue("closed elsewhere, held elsewhen", book, 10, 6, 30, 0);
+        book.takeBack(1, 3);
+        Check.due("opened", book.spread(1, 0, 4, 82, BY_FORMER), 2);
+        costsDue("opened", book, 10, 12, 60, 0);
+    }
+
+    private static void tenthPlace() {
+        BudgetBook book = bookOf(1, 2, 3, 4, 5, 6, 7, 8, 9);
+        Check.due("changed", book.spread(1, 0, 4, 94, BY_FORMER), 9);
+        costsDue("nine leaves", book, 3, 5, 7, 9, 10, 12, 14, 16, 18);
+        book = new BudgetBook();
+        for (int parent = 0; parent < 9; parent++) {
+            book.addPlace(parent);
+        }
+        Check.due("ten deep", book.spread(2, 0, 11, 1000000, BY_FORMER), 1);
+        Check.due("ten deep", book.amount(2, 9, COSTS, 11), 1000000);
+    }
+
+    private static void touchesNothingElse() {
+        BudgetBook book = bookOf(0, 0);
+        book.addPlace(0);
+        book.addPlace(1);
+        Check.thrown("1 is in use only as a parent", Check.STATE, () -> book.set(1, 1, COSTS, 4, 1));
+        book.set(1, 2, COSTS, 4, 70);
+        book.set(1, 3, COSTS, 4, 80);
+        book.set(0, 4, COSTS, 4, 90);
+        book.set(1, 4, COSTS, 3, 91);
+        book.set(1, 4, BudgetBook.HEADS, 4, 92);
+        book.see(4, COSTS, 4, 93);
+        Check.due("below 1 alone", book.spread(1, 1, 4, 5, EVENLY), 1);
+        Check.due("leaf 4", book.amount(1, 4, COSTS, 4), 5);
+        Check.due("leaf 2", book.amount(1, 2, COSTS, 4), 70);
+        Check.due("leaf 3", book.amount(1, 3, COSTS, 4), 80);
+        Check.due("another version", book.amount(0, 4, COSTS, 4), 90);
+        Check.due("another month", book.amount(1, 4, COSTS, 3), 91);
+        Check.due("another account", book.amount(1, 4, BudgetBook.HEADS, 4), 92);
+        Check.due("seen", book.see(4, COSTS, 4, 0), 93);
+        Check.due("filled", book.filled(), 6);
+    }
+
+    private static void cannotBeSpread() {
+        BudgetBook book = bookOf(10, 20);
+        book.hold(1, 4, true);
+        String before = Probe.of(book, 4);
+        for (int way = 0; way <= 1; way++) {
+            int by = way;
+            Check.thrown("rest below 0", Check.STATE, () -> book.spread(1, 0, 4, 9, by));
+            Check.thrown("no free leaf", Check.STATE, () -> book.spread(1, 1, 4, 10, by));
+        }
+        Check.due("nothing changed", Probe.of(book, 4), before);
+        book.handIn(1, 2);
+        Check.thrown("held and closed", Check.STATE, () -> book.spread(1, 0, 4, 30, EVENLY));
+        Check.thrown("also for 0", Check.STATE, () -> book.spread(1, 2, 4, 0, EVENLY));
+        Check.due("nothing changed", Probe.of(book, 4), before);
+        Check.due("another version", book.spread(0, 0, 4, 30, EVENLY), 1);
+    }
+
+    private static void throwsInOrder() {
+        BudgetBook book = bookOf(10);
+        book.hold(1, 4, true);
+        String before = Probe.of(book, 4);
+        for (int wrong : new int[] {-1, 12, Integer.MAX_VALUE, Integer.MIN_VALUE}) {
+            Check.thrown("version", Check.INDEX, () -> book.spread(wrong, 0, 4, -1, 2));
+            Check.thrown("place", Check.INDEX, () -> book.spread(1, wrong, 4, -1, 2));
+            Check.thrown("month", Check.INDEX, () -> book.spread(1, 0, wrong, -1, 2));
+            Check.thrown("way", Check.ARGUMENT, () -> book.spread(1, 0, 4, 0, wrong));
+        }
+        Check.thrown("version 3", Check.INDEX, () -> book.spread(3, 0, 4, 20, 0));
+        Check.thrown("place 2", Check.INDEX, () -> book.spread(1, 2, 4, 20, 0));
+        Check.thrown("way 2", Check.ARGUMENT, () -> book.spread(1, 0, 4, 20, 2));
+        for (int wrong : new int[] {-1, 1000001, Integer.MAX_VALUE, Integer.MIN_VALUE}) {
+            Check.thrown("sum", Check.ARGUMENT, () -> book.spread(1, 0, 4, wrong, 0));
+        }
+        Check.thrown("state last", Check.STATE, () -> book.spread(1, 0, 4, 1000000, 0));
+        Check.due("nothing changed", Probe.of(book, 4), before);
+    }
+}
