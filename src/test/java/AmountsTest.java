@@ -11,6 +11,7 @@ final class AmountsTest {
         outlook();
         years();
         greatestYears();
+        theRootAlone();
         filled();
         throwing();
     }
@@ -113,6 +114,24 @@ final class AmountsTest {
         Check.due("costs", book.yearByLeaves(2, 0, COSTS), 108000000);
         Check.due("heads", book.year(2, 0, HEADS), 108000);
         Check.due("filled", book.filled(), 324);
+    }
+
+    private static void theRootAlone() {
+        BudgetBook book = new BudgetBook();
+        int cells = 0;
+        for (int version = 0; version < 3; version++) {
+            for (int account = 0; account <= COSTS; account++) {
+                for (int month = 0; month < 12; month++) {
+                    book.set(version, 0, account, month, month + 1);
+                    cells++;
+                    Check.due("filled", book.filled(), cells);
+                }
+                Check.due("year", book.year(version, 0, account), 78);
+                Check.due("yearByLeaves", book.yearByLeaves(version, 0, account), 78);
+            }
+            Check.due("pay", book.year(version, 0, PAY), 650);
+            Check.due("pay", book.yearByLeaves(version, 0, PAY), 650);
+        }
     }
 
     private static void filled() {

@@ -6,6 +6,7 @@ final class CopyTest {
     static void run() {
         copy();
         copiesEveryCell();
+        copiesTheRootAlone();
         copyAndClosed();
         throwsInOrder();
     }
@@ -53,6 +54,21 @@ final class CopyTest {
             Check.due("heads", book.amount(1, leaf, 0, 11), leaf * 12 + 11);
             Check.due("costs", book.amount(1, leaf, 2, 0), leaf * 12 + 400);
         }
+    }
+
+    private static void copiesTheRootAlone() {
+        BudgetBook book = new BudgetBook();
+        for (int version = 0; version < 3; version++) {
+            book.set(version, 0, BudgetBook.HEADS, 0, version + 1);
+        }
+        book.see(0, BudgetBook.HEADS, 0, 4);
+        Check.due("1 to 0", book.copy(1, 0), 1);
+        Check.due("version 0", book.amount(0, 0, BudgetBook.HEADS, 0), 2);
+        Check.due("version 2 stays", book.amount(2, 0, BudgetBook.HEADS, 0), 3);
+        Check.due("0 to 2", book.copy(0, 2), 1);
+        Check.due("version 1 stays", book.amount(1, 0, BudgetBook.HEADS, 0), 2);
+        Check.due("version 2", book.amount(2, 0, BudgetBook.HEADS, 0), 2);
+        Check.due("seen stays", book.see(0, BudgetBook.HEADS, 0, 0), 4);
     }
 
     private static void copyAndClosed() {

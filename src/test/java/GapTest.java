@@ -7,6 +7,7 @@ final class GapTest {
 
     static void run() {
         oneCell();
+        eachMonth();
         sums();
         greatest();
         throwsInOrder();
@@ -39,6 +40,16 @@ final class GapTest {
             book.closeMonth();
         }
         gapsDue("nothing seen, no costs", book, 0, 1, 0, 40, 100, -50, -10);
+    }
+
+    private static void eachMonth() {
+        BudgetBook book = new BudgetBook();
+        book.set(1, 0, BudgetBook.COSTS, 0, 1000);
+        for (int month = 0; month < 12; month++) {
+            fill(book, 0, 0, month, 1, 10);
+            fill(book, 1, 0, month, 2 + month, 11);
+        }
+        gapsDue("each month", book, 0, 1, 0, 870, 780, 12, 78);
     }
 
     private static void sums() {

@@ -22,6 +22,10 @@ final class Model {
         }
     }
 
+    boolean hasChildren(int place) {
+        return parents.contains(place);
+    }
+
     int addPlace(int parent) {
         index(isPlace(parent));
         state(parents.size() < 10);
@@ -273,7 +277,7 @@ final class Model {
     }
 
     private boolean isLeaf(int place) {
-        return !parents.contains(place);
+        return !hasChildren(place);
     }
 
     private int sum(String layer, int place, int account, int month) {

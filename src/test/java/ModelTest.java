@@ -5,7 +5,7 @@ import java.util.function.Supplier;
 final class ModelTest {
     private static final int RUNS = 1000;
     private static final int CALLS = 512;
-    private static final int KINDS = 20;
+    private static final int KINDS = 28;
 
     private final Dice dice;
     private final BudgetBook book = new BudgetBook();
@@ -52,7 +52,7 @@ final class ModelTest {
             case 1: same(run, "places", book::places, model::places); break;
             case 2: same(run, "leaves", () -> book.leaves(p), () -> model.leaves(p), p); break;
             case 3:
-            case 4: set(run, v, p, a, m); break;
+            case 4: setOrSee(run, v, m); break;
             case 5: same(run, "hold", () -> book.hold(p, m, b), () -> model.hold(p, m, b), p, m, b ? 1 : 0); break;
             case 6: season(run, m); break;
             case 7:
@@ -61,19 +61,26 @@ final class ModelTest {
             case 10: same(run, "copy", () -> book.copy(v, w), () -> model.copy(v, w), v, w); break;
             case 11: hand(run, v, p); break;
             case 12: same(run, "takeBack", () -> book.takeBack(v, p), () -> model.takeBack(v, p), v, p); break;
-            case 13: see(run, p, a, m); break;
+            case 13: setOrSee(run, v, m); break;
             case 14: close(run); break;
             case 15: same(run, "amount", () -> book.amount(v, p, a, m), () -> model.amount(v, p, a, m), v, p, a, m); break;
             case 16: same(run, "outlook", () -> book.outlook(v, p, a, m), () -> model.outlook(v, p, a, m), v, p, a, m); break;
             case 17: same(run, "year", () -> book.year(v, p, a), () -> model.year(v, p, a), v, p, a); break;
             case 18: same(run, "yearByLeaves", () -> book.yearByLeaves(v, p, a), () -> model.year(v, p, a), v, p, a); break;
-            default: gap(run, v, w, p);
+            case 19: gap(run, v, w, p); break;
+            default: setOrSee(run, v, m);
         }
     }
 
-    private void set(int run, int v, int p, int a, int m) {
+    private void setOrSee(int run, int v, int m) {
+        int p = leaf();
+        int a = dice.below(20) == 0 ? account() : dice.below(3);
         int amount = amountOf(a);
-        same(run, "set", () -> book.set(v, p, a, m, amount), () -> model.set(v, p, a, m, amount), v, p, a, m, amount);
+        if (dice.below(4) == 0) {
+            same(run, "see", () -> book.see(p, a, m, amount), () -> model.see(p, a, m, amount), p, a, m, amount);
+        } else {
+            same(run, "set", () -> book.set(v, p, a, m, amount), () -> model.set(v, p, a, m, amount), v, p, a, m, amount);
+        }
     }
 
     private void season(int run, int m) {
@@ -101,11 +108,6 @@ final class ModelTest {
         }
     }
 
-    private void see(int run, int p, int a, int m) {
-        int amount = amountOf(a);
-        same(run, "see", () -> book.see(p, a, m, amount), () -> model.see(p, a, m, amount), p, a, m, amount);
-    }
-
     private void close(int run) {
         if (dice.below(3) == 0) {
             same(run, "closeMonth", book::closeMonth, model::closeMonth);
@@ -130,6 +132,15 @@ final class ModelTest {
 
     private int place() {
         return dice.below(40) == 0 ? dice.odd(-2, 12) : dice.below(model.places());
+    }
+
+    /** Mostly a leaf: what is set elsewhere is refused. */
+    private int leaf() {
+        int place = place();
+        for (int tries = 0; tries < 3 && model.hasChildren(place); tries++) {
+            place = place();
+        }
+        return place;
     }
 
     private int account() {

@@ -9,6 +9,7 @@ final class PlacesTest {
         addPlaceRefusesTheEleventh();
         addPlaceRefusesALeafInUse();
         addPlaceTakesAPlaceWithChildren();
+        addPlaceLooksAtTheParentAlone();
         addPlaceThrowsInOrder();
         addPlaceThatThrowsChangesNothing();
         leaves();
@@ -101,6 +102,30 @@ final class PlacesTest {
         Check.due("a parent with a leaf in use", book.addPlace(0), 2);
         Check.due("the new leaf is open", book.handIn(2, 2), 1);
         Check.due("the new leaf is not held", book.hold(2, 3, false), false);
+    }
+
+    private static void addPlaceLooksAtTheParentAlone() {
+        BudgetBook book = new BudgetBook();
+        book.addPlace(0);
+        book.addPlace(0);
+        book.addPlace(0);
+        for (int month = 0; month < 12; month++) {
+            for (int account = 0; account <= BudgetBook.COSTS; account++) {
+                for (int version = 0; version < 3; version++) {
+                    book.set(version, 1, account, month, 1);
+                    book.set(version, 3, account, month, 1);
+                }
+                book.see(1, account, month, 1);
+                book.see(3, account, month, 1);
+            }
+            book.hold(1, month, true);
+            book.hold(3, month, true);
+        }
+        for (int version = 0; version < 3; version++) {
+            book.handIn(version, 1);
+            book.handIn(version, 3);
+        }
+        Check.due("between leaves in use", book.addPlace(2), 4);
     }
 
     private static void addPlaceThrowsInOrder() {

@@ -12,6 +12,7 @@ final class SpreadYearTest {
         byFormerInEachMonth();
         aMonthThatGetsZero();
         cannotBeSpread();
+        eachMonthMayRefuse();
         throwsInOrder();
     }
 
@@ -114,6 +115,21 @@ final class SpreadYearTest {
         Check.thrown("all weights 0", Check.STATE, () -> book.spreadYear(0, 0, 24));
         Check.thrown("all weights 0, sum 0", Check.STATE, () -> book.spreadYear(2, 0, 0));
         Check.due("nothing changed", Probe.of(book, 11), before);
+    }
+
+    private static void eachMonthMayRefuse() {
+        for (int month = 0; month < 12; month++) {
+            BudgetBook book = new BudgetBook();
+            book.addPlace(0);
+            book.addPlace(0);
+            book.set(0, 1, COSTS, month, 3);
+            book.hold(1, month, true);
+            Check.thrown("the rest is below 0", Check.STATE, () -> book.spreadYear(0, 0, 24));
+            Check.thrown("no free leaf", Check.STATE, () -> book.spreadYear(0, 1, 1000));
+            Check.due("nothing changed", book.year(0, 0, COSTS), 3);
+            Check.due("the rest is 0", book.spreadYear(0, 0, 36), 22);
+            Check.due("the other leaf", book.year(0, 2, COSTS), 11);
+        }
     }
 
     private static void throwsInOrder() {
