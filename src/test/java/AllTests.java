@@ -5,6 +5,8 @@ public final class AllTests {
 
     public static void main(String[] args) {
         FaceTest.run();
+        StateTest.run();
+        RangesTest.run();
         PlacesTest.run();
         EntriesTest.run();
         SpreadTest.run();

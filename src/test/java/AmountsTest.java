@@ -11,8 +11,12 @@ final class AmountsTest {
         outlook();
         years();
         greatestYears();
+        greatestOutlook();
+        payOfLeavesNotOfSums();
+        payWithAZero();
         theRootAlone();
         filled();
+        filledFully();
         throwing();
     }
 
@@ -116,6 +120,59 @@ final class AmountsTest {
         Check.due("filled", book.filled(), 324);
     }
 
+    private static void greatestOutlook() {
+        BudgetBook book = Books.wide();
+        for (int leaf = 1; leaf <= 9; leaf++) {
+            for (int month = 0; month < 12; month += 11) {
+                book.see(leaf, HEADS, month, 1000);
+                book.see(leaf, PRICE, month, 1000);
+                book.see(leaf, COSTS, month, 1000000);
+            }
+        }
+        for (int month = 0; month < 12; month++) {
+            Check.due("not seen yet", book.outlook(0, 0, PAY, month), 0);
+            book.closeMonth();
+        }
+        for (int month = 0; month < 12; month += 11) {
+            Check.due("seen pay", book.outlook(0, 0, PAY, month), 9000000);
+            Check.due("seen costs", book.outlook(1, 0, COSTS, month), 9000000);
+            Check.due("seen heads", book.outlook(2, 0, HEADS, month), 9000);
+            Check.due("seen price of the tenth place", book.outlook(2, 9, PRICE, month), 1000);
+            Check.due("no version has it", book.amount(0, 0, PAY, month), 0);
+        }
+        Check.due("a year is of the version", book.year(0, 0, PAY), 0);
+        Check.due("a year is of the version", book.yearByLeaves(0, 0, COSTS), 0);
+    }
+
+    /** The sum of the products, not the product of the sums. */
+    private static void payOfLeavesNotOfSums() {
+        BudgetBook book = Books.withLeaves(2);
+        book.set(0, 1, HEADS, 0, 1000);
+        book.set(0, 2, PRICE, 0, 1000);
+        book.set(0, 1, PRICE, 1, 1000);
+        Check.due("heads of one, price of the other", book.amount(0, 0, PAY, 0), 0);
+        Check.due("in a year", book.year(0, 0, PAY), 0);
+        Check.due("leaf by leaf", book.yearByLeaves(0, 0, PAY), 0);
+        Check.due("heads in one month, price in the other", book.year(0, 1, PAY), 0);
+        Check.due("leaf by leaf", book.yearByLeaves(0, 1, PAY), 0);
+        book.set(0, 2, HEADS, 0, 1);
+        Check.due("one product", book.amount(0, 0, PAY, 0), 1000);
+    }
+
+    private static void payWithAZero() {
+        BudgetBook book = new BudgetBook();
+        Check.due("nothing", book.amount(1, 0, PAY, 0), 0);
+        book.set(1, 0, HEADS, 0, 1000);
+        Check.due("price 0", book.amount(1, 0, PAY, 0), 0);
+        book.set(1, 0, PRICE, 0, 1);
+        Check.due("price 1", book.amount(1, 0, PAY, 0), 1000);
+        book.set(1, 0, PRICE, 0, 1000);
+        Check.due("the greatest of a leaf", book.amount(1, 0, PAY, 0), 1000000);
+        book.set(1, 0, HEADS, 0, 0);
+        Check.due("heads 0", book.amount(1, 0, PAY, 0), 0);
+        Check.due("pay is no cell", book.filled(), 1);
+    }
+
     private static void theRootAlone() {
         BudgetBook book = new BudgetBook();
         int cells = 0;
@@ -151,6 +208,30 @@ final class AmountsTest {
         book.closeMonth();
         book.hold(2, 0, true);
         Check.due("not what is held, closed, seen", book.filled(), 19);
+    }
+
+    /** Cells of nine leaves in all versions, and some seen ones: the last leaf and month count, too. */
+    private static void filledFully() {
+        BudgetBook book = Books.wide();
+        for (int leaf = 1; leaf <= 9; leaf++) {
+            for (int account = 0; account <= COSTS; account++) {
+                for (int month = 0; month < 12; month++) {
+                    book.set(0, leaf, account, month, 1);
+                }
+            }
+        }
+        Check.due("one version", book.filled(), 324);
+        book.copy(0, 1);
+        book.copy(0, 2);
+        Check.due("all versions", book.filled(), 972);
+        for (int leaf = 1; leaf <= 9; leaf++) {
+            for (int month = 0; month < 12; month++) {
+                book.see(leaf, COSTS, month, 1);
+            }
+        }
+        Check.due("and seen ones", book.filled(), 1080);
+        Check.due("emptied", book.set(0, 9, COSTS, 11, 0), 1);
+        Check.due("emptied", book.filled(), 1079);
     }
 
     private static void throwing() {

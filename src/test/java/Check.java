@@ -1,3 +1,4 @@
+import java.util.function.Function;
 import java.util.function.Supplier;
 
 /** Counts what was checked and prints what is not as it is due. */
@@ -34,6 +35,23 @@ final class Check {
     /** A call that is to throw exactly this exception, no other and no class below it. */
     static void thrown(String what, Class<? extends RuntimeException> due, Supplier<Object> call) {
         due(what, answerOf(call), nameOf(due));
+    }
+
+    /** A call that is to throw exactly this on such a book and to change nothing of it. */
+    static void refused(String what, Class<? extends RuntimeException> due, Supplier<BudgetBook> books,
+            Function<BudgetBook, Object> call) {
+        refused(what, due, books, State.of(books), call);
+    }
+
+    /** The same, for many calls on books whose state has been read once. */
+    static void refused(String what, Class<? extends RuntimeException> due, Supplier<BudgetBook> books, String before,
+            Function<BudgetBook, Object> call) {
+        thrown(what, due, () -> call.apply(books.get()));
+        due(what + " changes nothing", State.of(() -> {
+            BudgetBook book = books.get();
+            answerOf(() -> call.apply(book));
+            return book;
+        }), before);
     }
 
     /** What a call answers, or the name of what it throws. */

@@ -1,3 +1,5 @@
+import java.util.function.Supplier;
+
 /** Promise 10: copy. */
 final class CopyTest {
     private CopyTest() {
@@ -8,6 +10,11 @@ final class CopyTest {
         copiesEveryCell();
         copiesTheRootAlone();
         copyAndClosed();
+        bothTheSame();
+        eachClosedLeafRefuses();
+        closedElsewhereDoesNotRefuse();
+        nothingToCopy();
+        greatestAmounts();
         throwsInOrder();
     }
 
@@ -88,6 +95,82 @@ final class CopyTest {
         Check.due("nothing changed", Probe.of(book, 3), before);
         book.takeBack(1, 2);
         Check.due("opened", book.copy(2, 1), 1);
+    }
+
+    private static void bothTheSame() {
+        for (int version = 0; version < 3; version++) {
+            int same = version;
+            Check.refused("the same", Check.ARGUMENT, Books::inUse, book -> book.copy(same, same));
+            Check.refused("the same goes before closed", Check.ARGUMENT, Books::handedIn, book -> book.copy(same, same));
+        }
+        Check.refused("the same, but no version", Check.INDEX, Books::handedIn, book -> book.copy(3, 3));
+        Check.refused("the same, but no version", Check.INDEX, Books::handedIn, book -> book.copy(-1, -1));
+    }
+
+    /** "if some leaf is closed in the version to": one of nine is enough, also if it has nothing to change. */
+    private static void eachClosedLeafRefuses() {
+        for (int leaf = 1; leaf <= 9; leaf++) {
+            int closed = leaf;
+            for (int to = 0; to < 3; to++) {
+                int version = to;
+                Supplier<BudgetBook> oneClosed = () -> {
+                    BudgetBook book = Books.wide();
+                    book.set((version + 1) % 3, 1, BudgetBook.HEADS, 0, 5);
+                    book.handIn(version, closed);
+                    return book;
+                };
+                String before = State.of(oneClosed);
+                Check.refused("one closed", Check.STATE, oneClosed, before, book -> book.copy((version + 1) % 3, version));
+                Check.refused("one closed", Check.STATE, oneClosed, before, book -> book.copy((version + 2) % 3, version));
+                BudgetBook book = oneClosed.get();
+                book.takeBack(version, closed);
+                Check.due("opened", book.copy((version + 1) % 3, version), 1);
+            }
+        }
+    }
+
+    private static void closedElsewhereDoesNotRefuse() {
+        for (int to = 0; to < 3; to++) {
+            for (int from = 0; from < 3; from++) {
+                if (from != to) {
+                    BudgetBook book = Books.wide();
+                    book.set(from, 9, BudgetBook.COSTS, 11, 1);
+                    for (int version = 0; version < 3; version++) {
+                        if (version != to) {
+                            book.handIn(version, 0);
+                        }
+                    }
+                    Check.due("closed in the others", book.copy(from, to), 1);
+                    Check.due("open as before", book.handIn(to, 0), 9);
+                }
+            }
+        }
+    }
+
+    private static void nothingToCopy() {
+        Check.due("nothing in both", Books.wide().copy(2, 0), 0);
+        BudgetBook book = Books.alone();
+        book.set(1, 0, BudgetBook.PRICE, 11, 1000);
+        book.set(2, 0, BudgetBook.PRICE, 11, 1000);
+        Check.due("the same in both", book.copy(1, 2), 0);
+        book.set(2, 0, BudgetBook.PRICE, 11, 999);
+        Check.due("one less", book.copy(1, 2), 1);
+        book.set(2, 0, BudgetBook.HEADS, 11, 1000);
+        Check.due("one that is 0 in from", book.copy(1, 2), 1);
+        Check.due("it is 0 then", book.amount(2, 0, BudgetBook.HEADS, 11), 0);
+    }
+
+    private static void greatestAmounts() {
+        BudgetBook book = Books.deep();
+        for (int month = 0; month < 12; month++) {
+            book.set(2, 9, BudgetBook.HEADS, month, 1000);
+            book.set(2, 9, BudgetBook.PRICE, month, 1000);
+            book.set(2, 9, BudgetBook.COSTS, month, 1000000);
+        }
+        Check.due("changed", book.copy(2, 0), 36);
+        Check.due("pay", book.year(0, 0, BudgetBook.PAY), 12000000);
+        Check.due("costs", book.year(0, 9, BudgetBook.COSTS), 12000000);
+        Check.due("filled", book.filled(), 72);
     }
 
     private static void throwsInOrder() {

@@ -10,8 +10,12 @@ final class EntriesTest {
         setRanges();
         setThrowsInOrder();
         setOfNoLeafOrClosed();
+        setOfALeafOpenedAgain();
+        setOfEachClosedLeaf();
+        setOfAHeldLeaf();
         hold();
         holdThrowsInOrder();
+        holdOfEachMonth();
         setSeason();
         setSeasonThrowsInOrder();
     }
@@ -98,6 +102,44 @@ final class EntriesTest {
         Check.due("a held cell can be set", book.set(1, 2, BudgetBook.COSTS, 0, 9), 1);
     }
 
+    private static void setOfALeafOpenedAgain() {
+        BudgetBook book = new BudgetBook();
+        book.set(2, 0, BudgetBook.PRICE, 11, 1000);
+        book.handIn(2, 0);
+        Check.thrown("closed, the same amount", Check.STATE, () -> book.set(2, 0, BudgetBook.PRICE, 11, 1000));
+        Check.thrown("closed, another month", Check.STATE, () -> book.set(2, 0, BudgetBook.PRICE, 0, 0));
+        book.takeBack(2, 0);
+        Check.due("opened", book.set(2, 0, BudgetBook.PRICE, 11, 0), 1000);
+    }
+
+    private static void setOfEachClosedLeaf() {
+        for (int version = 0; version < 3; version++) {
+            for (int leaf = 1; leaf <= 9; leaf++) {
+                BudgetBook book = Books.wide();
+                book.handIn(version, leaf);
+                for (int other = 1; other <= 9; other++) {
+                    for (int in = 0; in < 3; in++) {
+                        int of = other;
+                        int there = in;
+                        Object due = of == leaf && there == version ? "throws.IllegalStateException" : (Object) 0;
+                        Check.due("set beside what is closed",
+                                Check.answerOf(() -> book.set(there, of, BudgetBook.COSTS, 3, 8)), due);
+                    }
+                }
+            }
+        }
+    }
+
+    /** Only spreading leaves a held cell as it is. */
+    private static void setOfAHeldLeaf() {
+        BudgetBook book = new BudgetBook();
+        book.hold(0, 3, true);
+        Check.due("a held cell is set", book.set(1, 0, BudgetBook.COSTS, 3, 1000000), 0);
+        Check.due("the amount before", book.set(1, 0, BudgetBook.COSTS, 3, 0), 1000000);
+        Check.due("it is held yet", book.hold(0, 3, true), false);
+        Check.due("a held cell is seen", book.see(0, BudgetBook.COSTS, 3, 4), 0);
+    }
+
     private static void hold() {
         BudgetBook book = new BudgetBook();
         book.addPlace(0);
@@ -135,6 +177,24 @@ final class EntriesTest {
         Check.thrown("no leaf", Check.STATE, () -> book.hold(0, 0, true));
         Check.thrown("no leaf", Check.STATE, () -> book.hold(0, 0, false));
         Check.due("nothing is held", book.addPlace(1), 2);
+    }
+
+    /** Each leaf and month for itself; "Returns true if that changes something", in both ways. */
+    private static void holdOfEachMonth() {
+        BudgetBook book = Books.withLeaves(3);
+        for (int month = 0; month < 12; month++) {
+            for (int leaf = 1; leaf <= 3; leaf++) {
+                Check.due("not held at first", book.hold(leaf, month, false), false);
+                Check.due("held", book.hold(leaf, month, true), true);
+                Check.due("held already", book.hold(leaf, month, true), false);
+            }
+        }
+        for (int month = 0; month < 12; month++) {
+            for (int leaf = 1; leaf <= 3; leaf++) {
+                Check.due("no more", book.hold(leaf, month, false), true);
+                Check.due("no more already", book.hold(leaf, month, false), false);
+            }
+        }
     }
 
     private static void setSeason() {

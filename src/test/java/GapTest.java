@@ -10,6 +10,9 @@ final class GapTest {
         eachMonth();
         sums();
         greatest();
+        greatestParts();
+        theSameVersion();
+        ofLeavesNotOfSums();
         throwsInOrder();
     }
 
@@ -86,6 +89,53 @@ final class GapTest {
         gapsDue("greatest", book, 0, 1, 0, 108000000, 0, 0, 108000000);
         gapsDue("least", book, 1, 0, 0, -108000000, -108000000, -108000000, 108000000);
         gapsDue("tenth place", book, 0, 1, 9, 12000000, 0, 0, 12000000);
+    }
+
+    /** Each part at its greatest and its least, of a leaf in a year. */
+    private static void greatestParts() {
+        int[][] due = {
+            {0, 0, 1000, 1000, 12000000, 0, 0, 12000000},
+            {0, 1000, 1000, 1000, 12000000, 12000000, 0, 0},
+            {1000, 0, 1000, 1000, 12000000, 0, 12000000, 0},
+            {1000, 1000, 0, 0, -12000000, -12000000, -12000000, 12000000},
+            {1000, 1000, 0, 1000, -12000000, -12000000, 0, 0},
+            {1000, 1000, 1000, 0, -12000000, 0, -12000000, 0},
+            {0, 1000, 1000, 0, 0, 12000000, 0, -12000000},
+            {1000, 0, 0, 1000, 0, 0, 12000000, -12000000},
+        };
+        for (int[] row : due) {
+            BudgetBook book = Books.deep();
+            for (int month = 0; month < 12; month++) {
+                fill(book, 0, 9, month, row[0], row[1]);
+                fill(book, 2, 9, month, row[2], row[3]);
+            }
+            for (int place = 0; place < 10; place++) {
+                gapsDue("greatest parts", book, 0, 2, place, row[4], row[5], row[6], row[7]);
+            }
+        }
+    }
+
+    private static void theSameVersion() {
+        for (int version = 0; version < 3; version++) {
+            BudgetBook book = Books.inUse();
+            for (int place = 0; place < 3; place++) {
+                gapsDue("the same version", book, version, version, place, 0, 0, 0, 0);
+            }
+        }
+    }
+
+    private static void ofLeavesNotOfSums() {
+        BudgetBook book = Books.withLeaves(2);
+        fill(book, 0, 1, 0, 10, 0);
+        fill(book, 0, 2, 0, 0, 10);
+        fill(book, 1, 1, 0, 0, 10);
+        fill(book, 1, 2, 0, 10, 0);
+        gapsDue("one for the other", book, 0, 1, 0, 0, 100, 100, -200);
+        gapsDue("empty", Books.withLeaves(2), 0, 1, 0, 0, 0, 0, 0);
+        BudgetBook apart = new BudgetBook();
+        fill(apart, 0, 0, 3, 10, 0);
+        fill(apart, 1, 0, 4, 0, 10);
+        gapsDue("in different months", apart, 0, 1, 0, 0, 0, 0, 0);
     }
 
     private static void throwsInOrder() {

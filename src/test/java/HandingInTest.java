@@ -5,6 +5,11 @@ final class HandingInTest {
 
     static void run() {
         handInAndTakeBack();
+        handedInAlready();
+        openAlready();
+        someOfThemAlready();
+        eachVersionForItself();
+        closedIsHeldForSpreading();
         throwing();
     }
 
@@ -38,6 +43,69 @@ final class HandingInTest {
         Check.due("up to the tenth place", book.handIn(2, 0), 8);
         Check.due("the tenth place", book.takeBack(2, 9), 1);
         Check.due("the others", book.takeBack(2, 0), 7);
+    }
+
+    private static void handedInAlready() {
+        for (int version = 0; version < 3; version++) {
+            BudgetBook book = Books.wide();
+            Check.due("all nine", book.handIn(version, 0), 9);
+            for (int place = 0; place < 10; place++) {
+                Check.due("handed in already", book.handIn(version, place), 0);
+            }
+            Check.due("all nine are closed yet", book.takeBack(version, 0), 9);
+        }
+    }
+
+    private static void openAlready() {
+        for (int version = 0; version < 3; version++) {
+            BudgetBook book = Books.wide();
+            for (int place = 0; place < 10; place++) {
+                Check.due("open at first", book.takeBack(version, place), 0);
+            }
+            book.handIn(version, 0);
+            Check.due("all nine", book.takeBack(version, 0), 9);
+            for (int place = 0; place < 10; place++) {
+                Check.due("open already", book.takeBack(version, place), 0);
+            }
+        }
+    }
+
+    private static void someOfThemAlready() {
+        for (int leaf = 1; leaf <= 9; leaf++) {
+            BudgetBook book = Books.wide();
+            Check.due("one", book.handIn(1, leaf), 1);
+            Check.due("the eight others", book.handIn(1, 0), 8);
+            Check.due("one", book.takeBack(1, leaf), 1);
+            Check.due("the eight others", book.takeBack(1, 0), 8);
+        }
+        Check.due("the one leaf below ten places", Books.deep().handIn(0, 0), 1);
+        Check.due("the place 0 as a leaf", Books.alone().handIn(0, 0), 1);
+    }
+
+    private static void eachVersionForItself() {
+        for (int version = 0; version < 3; version++) {
+            BudgetBook book = Books.withLeaves(2);
+            book.handIn(version, 0);
+            for (int other = 0; other < 3; other++) {
+                Check.due("open in the others", book.takeBack(other, 1), other == version ? 1 : 0);
+                Check.due("open in the others", book.handIn(other, 2), other == version ? 0 : 1);
+            }
+        }
+    }
+
+    private static void closedIsHeldForSpreading() {
+        BudgetBook book = Books.withLeaves(2);
+        book.set(0, 1, BudgetBook.COSTS, 0, 6);
+        book.handIn(0, 1);
+        Check.thrown("a closed leaf alone", Check.STATE, () -> book.spread(0, 1, 0, 6, BudgetBook.EVENLY));
+        Check.due("beside it", book.spread(0, 0, 0, 10, BudgetBook.EVENLY), 1);
+        Check.due("it stays", book.amount(0, 1, BudgetBook.COSTS, 0), 6);
+        Check.due("the rest", book.amount(0, 2, BudgetBook.COSTS, 0), 4);
+        Check.due("closing sets no hold", book.hold(1, 0, true), true);
+        book.hold(1, 0, false);
+        book.takeBack(0, 1);
+        Check.due("taken back", book.spread(0, 0, 0, 20, BudgetBook.EVENLY), 2);
+        Check.due("taken back", book.amount(0, 1, BudgetBook.COSTS, 0), 10);
     }
 
     private static void throwing() {

@@ -7,7 +7,10 @@ final class MonthsTest {
         see();
         seeRanges();
         seeThrowsInOrder();
+        seeIsBesideAllVersions();
         closeMonth();
+        allTwelveAndOneMore();
+        beforeAndBehindTheLastSeenMonth();
     }
 
     private static void see() {
@@ -86,5 +89,60 @@ final class MonthsTest {
         Check.due("a seen month can be set", book.set(0, 0, BudgetBook.COSTS, 0, 9), 0);
         Check.due("and is kept beside", book.amount(0, 0, BudgetBook.COSTS, 0), 9);
         Check.due("and seen as it was", book.outlook(0, 0, BudgetBook.COSTS, 0), 5);
+    }
+
+    /** "Seen cells are the same for each leaf, account but PAY, and month, beside all versions." */
+    private static void seeIsBesideAllVersions() {
+        BudgetBook book = Books.withLeaves(2);
+        for (int version = 0; version < 3; version++) {
+            book.set(version, 1, BudgetBook.HEADS, 0, version + 1);
+        }
+        Check.due("0 at first", book.see(1, BudgetBook.HEADS, 0, 1000), 0);
+        Check.due("of each leaf", book.see(2, BudgetBook.HEADS, 0, 10), 0);
+        book.handIn(0, 0);
+        book.handIn(1, 0);
+        book.handIn(2, 0);
+        Check.due("also of a leaf that is closed", book.see(1, BudgetBook.HEADS, 0, 999), 1000);
+        book.closeMonth();
+        Check.due("also in a month that is seen", book.see(1, BudgetBook.HEADS, 0, 998), 999);
+        for (int version = 0; version < 3; version++) {
+            Check.due("the version's", book.amount(version, 1, BudgetBook.HEADS, 0), version + 1);
+            Check.due("the seen one", book.outlook(version, 1, BudgetBook.HEADS, 0), 998);
+            Check.due("the seen ones", book.outlook(version, 0, BudgetBook.HEADS, 0), 1008);
+        }
+    }
+
+    private static void allTwelveAndOneMore() {
+        BudgetBook book = new BudgetBook();
+        for (int months = 1; months <= 12; months++) {
+            Check.due("how many are seen then", book.closeMonth(), months);
+        }
+        for (int more = 0; more < 3; more++) {
+            Check.thrown("all 12 are", Check.STATE, book::closeMonth);
+        }
+        BudgetBook other = new BudgetBook();
+        Check.due("each book for itself", other.closeMonth(), 1);
+    }
+
+    private static void beforeAndBehindTheLastSeenMonth() {
+        BudgetBook book = new BudgetBook();
+        for (int month = 0; month < 12; month++) {
+            book.set(2, 0, BudgetBook.COSTS, month, 100 + month);
+            book.see(0, BudgetBook.COSTS, month, 200 + month);
+        }
+        Check.due("no month is seen at first", book.outlook(2, 0, BudgetBook.COSTS, 0), 100);
+        for (int last = 0; last < 12; last++) {
+            book.closeMonth();
+            Check.due("the first", book.outlook(2, 0, BudgetBook.COSTS, 0), 200);
+            Check.due("the last seen month", book.outlook(2, 0, BudgetBook.COSTS, last), 200 + last);
+            if (last > 0) {
+                Check.due("just before", book.outlook(2, 0, BudgetBook.COSTS, last - 1), 200 + last - 1);
+            }
+            if (last < 11) {
+                Check.due("just behind", book.outlook(2, 0, BudgetBook.COSTS, last + 1), 100 + last + 1);
+                Check.due("the last month of all", book.outlook(2, 0, BudgetBook.COSTS, 11), 111);
+            }
+            Check.due("as it is planned", book.amount(2, 0, BudgetBook.COSTS, last), 100 + last);
+        }
     }
 }

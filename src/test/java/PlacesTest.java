@@ -12,7 +12,12 @@ final class PlacesTest {
         addPlaceLooksAtTheParentAlone();
         addPlaceThrowsInOrder();
         addPlaceThatThrowsChangesNothing();
+        tenPlacesBelowOneAnother();
+        closedMonthsDoNotKeepALeaf();
+        aNewLeafIsAsNew();
         leaves();
+        leavesOfTenPlaces();
+        the512thCall();
     }
 
     private static void newBook() {
@@ -171,5 +176,63 @@ final class PlacesTest {
         for (int place : new int[] {-1, 7, 9, 10, Integer.MAX_VALUE, Integer.MIN_VALUE}) {
             Check.thrown("no such place", Check.INDEX, () -> book.leaves(place));
         }
+    }
+
+    /** "each but the place 0 has a parent, an earlier place": the one before, down to the tenth. */
+    private static void tenPlacesBelowOneAnother() {
+        BudgetBook book = new BudgetBook();
+        for (int parent = 0; parent < 9; parent++) {
+            int itself = parent + 1;
+            Check.thrown("a place that is not there yet", Check.INDEX, () -> book.addPlace(itself));
+            Check.due("below the one before", book.addPlace(parent), itself);
+        }
+        Check.thrown("the eleventh", Check.STATE, () -> book.addPlace(9));
+        Check.thrown("no such place goes before 10 places", Check.INDEX, () -> book.addPlace(10));
+        Check.due("places", book.places(), 10);
+    }
+
+    /** A month that is seen is no cell that is seen. */
+    private static void closedMonthsDoNotKeepALeaf() {
+        BudgetBook book = new BudgetBook();
+        for (int months = 1; months <= 12; months++) {
+            book.closeMonth();
+        }
+        book.see(0, BudgetBook.COSTS, 0, 0);
+        book.setSeason(0, 0);
+        Check.due("all months seen", book.addPlace(0), 1);
+        book.see(1, BudgetBook.HEADS, 11, 1);
+        Check.thrown("a seen cell", Check.STATE, () -> book.addPlace(1));
+        book.see(1, BudgetBook.HEADS, 11, 0);
+        Check.due("no more", book.addPlace(1), 2);
+    }
+
+    private static void aNewLeafIsAsNew() {
+        BudgetBook book = new BudgetBook();
+        book.set(0, 0, BudgetBook.COSTS, 0, 1000000);
+        book.set(0, 0, BudgetBook.COSTS, 0, 0);
+        book.addPlace(0);
+        Check.due("nothing is filled", book.filled(), 0);
+        Check.due("its cell", book.set(0, 1, BudgetBook.COSTS, 0, 7), 0);
+        Check.due("the parent has its leaf's amount", book.amount(0, 0, BudgetBook.COSTS, 0), 7);
+        Check.due("the parent is no leaf more", book.leaves(0), 0b10);
+        book.handIn(0, 0);
+        book.addPlace(0);
+        Check.due("a leaf added below a place handed in is open", book.set(0, 2, BudgetBook.COSTS, 0, 5), 0);
+        Check.due("one is closed by handing in once more", book.handIn(0, 0), 1);
+    }
+
+    private static void leavesOfTenPlaces() {
+        for (int place = 0; place < 10; place++) {
+            Check.due("one below another", Books.deep().leaves(place), 1 << 9);
+            Check.due("all below the place 0", Books.wide().leaves(place), place == 0 ? 0b1111111110 : 1 << place);
+        }
+    }
+
+    private static void the512thCall() {
+        BudgetBook book = new BudgetBook();
+        for (int call = 1; call <= 511; call++) {
+            Check.due("set", book.set(call % 3, 0, BudgetBook.COSTS, 0, call), call <= 3 ? 0 : call - 3);
+        }
+        Check.due("the 512th call", book.set(512 % 3, 0, BudgetBook.COSTS, 0, 0), 509);
     }
 }
