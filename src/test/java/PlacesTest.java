@@ -1,3 +1,6 @@
+import java.util.function.Consumer;
+import java.util.function.Supplier;
+
 /** Promises 1 to 4: a new object, addPlace, places, leaves. */
 final class PlacesTest {
     private PlacesTest() {
@@ -12,6 +15,7 @@ final class PlacesTest {
         addPlaceLooksAtTheParentAlone();
         addPlaceThrowsInOrder();
         addPlaceThatThrowsChangesNothing();
+        refusedForALeafInUseChangesNothing();
         tenPlacesBelowOneAnother();
         closedMonthsDoNotKeepALeaf();
         aNewLeafIsAsNew();
@@ -176,6 +180,40 @@ final class PlacesTest {
         for (int place : new int[] {-1, 7, 9, 10, Integer.MAX_VALUE, Integer.MIN_VALUE}) {
             Check.thrown("no such place", Check.INDEX, () -> book.leaves(place));
         }
+    }
+
+    private static void refusedForALeafInUseChangesNothing() {
+        refused("held", book -> book.hold(1, 11, true));
+        for (int way = 0; way < 4; way++) {
+            int version = way;
+            for (int account = BudgetBook.HEADS; account <= BudgetBook.COSTS; account++) {
+                int of = account;
+                refused("filled", book -> put(book, version, of, 11, 1));
+            }
+            if (version < 3) {
+                refused("closed", book -> book.handIn(version, 1));
+                refused("closed with all others", book -> book.handIn(version, 0));
+            }
+        }
+    }
+
+    private static void refused(String what, Consumer<BudgetBook> use) {
+        Supplier<BudgetBook> used = () -> {
+            BudgetBook book = Books.withLeaves(2);
+            Check.due("not in use yet", book.leaves(1), 0b10);
+            use.accept(book);
+            return book;
+        };
+        Check.refused(what, Check.STATE, used, book -> book.addPlace(1));
+        Supplier<BudgetBook> usedAndFull = () -> {
+            BudgetBook book = used.get();
+            for (int number = 3; number < 10; number++) {
+                Check.due("below a place with children", book.addPlace(0), number);
+            }
+            return book;
+        };
+        Check.refused(what + ", and 10 places", Check.STATE, usedAndFull, book -> book.addPlace(1));
+        Check.refused(what + ", and 10 places", Check.STATE, usedAndFull, book -> book.addPlace(9));
     }
 
     /** "each but the place 0 has a parent, an earlier place": the one before, down to the tenth. */
