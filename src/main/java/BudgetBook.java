@@ -271,14 +271,14 @@ public final class BudgetBook {
     }
 
     private boolean isInUse(int leaf) {
-        boolean inUse = !cells.isBlank(leaf);
+        int heldOrClosed = 0;
         for (int month = 0; month < MONTHS; month++) {
-            inUse |= isIn(heldLeavesByMonth[month], leaf);
+            heldOrClosed |= heldLeavesByMonth[month];
         }
         for (int version = 0; version < VERSIONS; version++) {
-            inUse |= isIn(closedLeavesByVersion[version], leaf);
+            heldOrClosed |= closedLeavesByVersion[version];
         }
-        return inUse;
+        return isIn(heldOrClosed, leaf) || !cells.isBlank(leaf);
     }
 
     // ---- spreading

@@ -5,6 +5,7 @@ public final class AllTests {
 
     public static void main(String[] args) {
         FaceTest.run();
+        ReadmeTest.run();
         StateTest.run();
         RangesTest.run();
         PlacesTest.run();
